@@ -90,6 +90,9 @@ final class DeedBounds {
         s.due("station(-1, 0)", x.station(-1, 0), Sentences.UNKNOWN);
         x = s.told("s2 9 0;" + "p1 0 9 0 0;".repeat(8));
         s.due("station(1, 0), all", x.station(1, 0), 255);
+        s.due("station(1, 1), all", x.station(1, 1), 0);
+        x.mien(7, 9);
+        s.due("station(1, 1), the last one", x.station(1, 1), 9);
     }
 
     private static void mien(Sentences s) {

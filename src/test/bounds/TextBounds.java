@@ -18,6 +18,7 @@ final class TextBounds {
         wantsWhereHeStands(s);
         emptyText(s);
         lineClears(s);
+        nothingLeft(s);
         lineWithFault(s);
         faultOfLatest(s);
     }
@@ -404,10 +405,30 @@ final class TextBounds {
         s.due("seed(0)", x.seed(0), 77);
         s.due("the first entry behind it", x.write(0, 0), 1);
         s.due("the first that ran behind it", x.ran(0, true), 1);
-        // nobody of the earlier text is left in it
-        s.due("line() again", Sentences.tell(x, "s2 1 0;p1 0 9 0 0;"), 1);
-        s.due("person(0, 2)", x.person(0, 2), Sentences.NONE);
-        s.due("person(0, 4)", x.person(0, 4), 0);
+    }
+
+    /** A line told behind a greater one is like one told to a new object. */
+    private static void nothingLeft(Sentences s) {
+        s.says("THE TEXT (it is empty then, with a FAULT, too) becomes THE LINE");
+        for (String text : new String[] {"", "s2 1 0;", "s3 2 1;p0 1 9 0 0;", "s2 1 0;p1 0 9 0 0;p0 1 9 3 1;"}) {
+            SpiteLine used = s.told("s8 15 9;" + "p0 7 9 9 3;".repeat(2) + "p1 0 0 9 3;".repeat(3) + "p2 0 1 9 3;".repeat(3));
+            used.train(3);
+            used.ran(7, false);
+            used.write(7, 7);
+            SpiteLine fresh = new SpiteLine();
+            s.due("line() of '" + text + "'", Sentences.tell(used, text), Sentences.tell(fresh, text));
+            s.due("all of '" + text + "'", Sentences.lineOf(used), Sentences.lineOf(fresh));
+            s.due("stops()", used.stops(), fresh.stops());
+            s.due("hoped(NONE)", used.hoped(Sentences.NONE), fresh.hoped(Sentences.NONE));
+            s.due("look()", used.look(), fresh.look());
+            s.due("never(1)", used.never(1), fresh.never(1));
+            s.due("judge()", used.judge(), fresh.judge());
+            s.due("chance(0, 10)", used.chance(0, 10), fresh.chance(0, 10));
+            s.due("calm(3)", used.calm(3), fresh.calm(3));
+            s.due("aunts(0, 1)", used.aunts(0, 1), fresh.aunts(0, 1));
+            s.due("drift(5)", used.drift(5), fresh.drift(5));
+            s.due("all then", Sentences.lineOf(used), Sentences.lineOf(fresh));
+        }
     }
 
     private static void lineWithFault(Sentences s) {

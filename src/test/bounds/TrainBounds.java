@@ -376,22 +376,24 @@ final class TrainBounds {
 
     private static void undoneTrains(Sentences s) {
         s.says("all of section 2, MIENS, FEET, FLOWERS, FOG are as ahead of them; THE SEED stays");
-        SpiteLine x = s.told("s4 6 1;p0 3 9 2 1;p1 3 0 3 2;p2 0 9 9 3;");
-        x.train(1);
-        int[][] behind = new int[7][];
         Sentences.Call[] deeds = {o -> o.mien(0, 9), o -> o.feet(1, true), o -> o.flowers(2, false), o -> o.walk(2, 0),
             o -> o.fog(9), o -> o.drift(1), o -> o.train(1)};
-        for (int k = 0; k < deeds.length; k++) {
-            behind[k] = Sentences.lineOf(x);
-            deeds[k].on(x);
+        for (int from = 0; from < deeds.length; from++) {
+            SpiteLine x = s.told("s4 6 1;p0 3 9 2 1;p1 3 0 3 2;p2 0 9 9 3;");
+            x.train(1);
+            for (int k = 0; k < from; k++) {
+                deeds[k].on(x);
+            }
+            int[] ahead = Sentences.lineOf(x);
+            for (int k = from; k < deeds.length; k++) {
+                deeds[k].on(x);
+            }
+            s.due("undo() from deed " + from, x.undo(deeds.length - from), from == deeds.length - 1 ? 2 : 1);
+            s.due("all ahead of deed " + from, Sentences.lineOf(x), ahead);
+            s.due("the seed stays behind a day's draws", x.seed(5), seedBehind(0, 3));
+            s.due("undo(1) behind seed()", x.undo(1), from == 0 ? 0 : 1);
+            s.due("the seed stays", x.seed(0), 5);
         }
-        int seed = x.seed(5);
-        s.due("the seed behind one day", seed, seedBehind(0, 3));
-        for (int k = deeds.length - 1; k >= 0; k--) {
-            s.due("undo(1) of deed " + k, x.undo(1), k == deeds.length - 1 ? 2 : 1);
-            s.due("all ahead of deed " + k, Sentences.lineOf(x), behind[k]);
-        }
-        s.due("seed(0) stays", x.seed(0), 5);
     }
 
     private static void undo(Sentences s) {
